@@ -2,7 +2,7 @@ import java.util.function.Supplier;
 
 /** Long runs of calls, made up by a fixed row of numbers, answered by the class and by the model. */
 final class ModelTest {
-  private static final int RUNS = 60;
+  private static final int RUNS = 150;
   private static final int CALLS = 512;
   private static final String[] ROWS = {
     "#", "##", "###", "####", "#/#", "##/##", "#./##", "##/#.", "##./.##", ".#./###", "###/#.#/###", "#.#/###",

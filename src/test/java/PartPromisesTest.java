@@ -18,6 +18,7 @@ final class PartPromisesTest {
     promise10();
     promise11();
     promise11Within();
+    promise11Edges();
     promise12();
     promise12Order();
     promise13();
@@ -192,6 +193,30 @@ final class PartPromisesTest {
     x.place(4, 2, 0, 0, 0);
     x.place(5, 2, 1, 0, 0);
     check.equal("11: not at the edge of the sheet", x.part(6, 6), -1);
+    SheetNester y = new SheetNester();
+    y.addSheet(4, 4, 0);
+    y.addShape(4, 4, 0xf99f, 0, 1);
+    y.addShape(1, 1, 1, 0, 1);
+    y.place(0, 0, 0, 0, 0);
+    y.place(1, 0, 1, 2, 0);
+    check.equal("11: the ring may be part 0 and at all edges", y.part(1, 6), 0);
+    check.equal("11: common cuts of part 0", y.part(0, 7), 2);
+  }
+
+  /** A cell at an edge, with a part on all its other sides, at each of the edges. */
+  private static void promise11Edges() {
+    int[][] corners = {{1, 0}, {3, 1}, {1, 3}, {0, 1}};
+    int[][] bays = {{2, 0}, {4, 2}, {2, 4}, {0, 2}};
+    for (int turn = 0; turn < 4; turn++) {
+      SheetNester x = new SheetNester();
+      x.addSheet(5, 5, 0);
+      x.addShape(3, 2, 0b111101, 0, 1);
+      x.addShape(1, 1, 1, 0, 1);
+      x.place(0, 0, corners[turn][0], corners[turn][1], turn);
+      x.place(1, 0, bays[turn][0], bays[turn][1], 0);
+      check.equal("11: not in a bay with the turn " + turn, x.part(1, 6), -1);
+      check.equal("11: though there are three common cuts", x.part(1, 7), 3);
+    }
   }
 
   private static void promise12() {

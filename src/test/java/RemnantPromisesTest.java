@@ -203,6 +203,17 @@ final class RemnantPromisesTest {
     way("and of several such the first", x, 1, 13, 1, 3, 0, 2);
     x.take(1);
     way("one alone", x, 1, 9, 2, 0, 1);
+    SheetNester y = new SheetNester();
+    y.addSheet(5, 5, 0);
+    y.addShape(4, 4, 0xf99f, 0, 1);
+    y.addShape(1, 1, 1, 0, 9);
+    y.place(1, 0, 2, 2, 0);
+    y.place(0, 0, 0, 0, 0);
+    for (int way = 0; way < 2; way++) {
+      check.equal("17: the lowest number within, way " + way, y.way(0, way, 0), 0);
+      check.equal("17: then the ring, way " + way, y.way(0, way, 1), 1);
+      check.equal("17: there and back, way " + way, y.way(0, way, -1), 8);
+    }
   }
 
   private static void promise17Shortest() {
@@ -218,6 +229,7 @@ final class RemnantPromisesTest {
     int[] nine = {99, 90, 9, 0, 55, 44, 54, 45, 11};
     SheetNester x = dots(10, 10, nine);
     check.equal("17: nine parts", x.sheet(1, 6), 9);
+    way("nine in a row", dots(10, 2, 5, 3, 9, 1, 7, 2, 8, 4, 6), 1, 9, 4, 6, 2, 8, 1, 9, 5, 7, 3);
     x.place(0, 1, 7, 7, 0);
     check.refused("17: ten have no shortest way", UNSUPPORTED, () -> x.way(1, 1, 0));
     check.refused("17: which comes before i", UNSUPPORTED, () -> x.way(1, 1, 99));

@@ -175,6 +175,14 @@ final class SheetPromisesTest {
     x.addShape(1, 1, 1, 0, 9);
     x.addShape(2, 1, 3, 0, 9);
     check.equal("5: no part, no cut", x.sheet(0, 7), 0);
+    x.place(0, 0, 0, 0, 0);
+    x.place(0, 0, 1, 0, 0);
+    x.place(0, 0, 0, 1, 0);
+    check.equal("5: common ones of the part 0", x.sheet(0, 8), 2);
+    check.equal("5: among four", x.sheet(0, 7), 4);
+    x.undo();
+    x.undo();
+    x.undo();
     x.spoil(0, 3);
     check.equal("5: neither where cells are not usable", x.sheet(0, 7), 0);
     x.place(0, 0, 1, 0, 0);
@@ -280,6 +288,11 @@ final class SheetPromisesTest {
       y.spoil(0, cell);
     }
     check.refused("18: no usable cells", ArithmeticException.class, () -> y.usedShare());
+    y.undo();
+    check.equal("18: a usable cell alone", y.usedShare(), 0f);
+    y.addShape(1, 1, 1, 0, 1);
+    y.nest(0);
+    check.equal("18: all is covered", y.usedShare(), 1f);
   }
 
   private static void promise19() {
