@@ -1,10 +1,20 @@
+import java.util.NoSuchElementException;
+
 /** Counts the answers that are not as due, and ends the test with them. */
 final class Check {
+  static final Class<IllegalArgumentException> ARGUMENT = IllegalArgumentException.class;
+  static final Class<IllegalStateException> STATE = IllegalStateException.class;
+  static final Class<IndexOutOfBoundsException> INDEX = IndexOutOfBoundsException.class;
+  static final Class<UnsupportedOperationException> UNSUPPORTED = UnsupportedOperationException.class;
+  static final Class<NoSuchElementException> ELEMENT = NoSuchElementException.class;
+  static final Class<ArithmeticException> ARITHMETIC = ArithmeticException.class;
+
   interface Call {
     Object answer();
   }
 
   private final String test;
+  private String subject = "";
   private int checks = 0;
   private int wrong = 0;
 
@@ -12,11 +22,20 @@ final class Check {
     this.test = test;
   }
 
+  /** What is printed ahead of the checks that follow. */
+  void about(String text) {
+    subject = text;
+  }
+
+  int checks() {
+    return checks;
+  }
+
   void equal(String what, Object got, Object want) {
     checks++;
     if (!want.equals(got)) {
       wrong++;
-      System.out.println(what + ": answered " + got + ", due is " + want);
+      System.out.println(subject + what + ": answered " + got + ", due is " + want);
     }
   }
 
@@ -31,8 +50,15 @@ final class Check {
     }
     if (got != due) {
       wrong++;
-      System.out.println(what + ": answered " + got + ", due is " + due);
+      System.out.println(subject + what + ": answered " + got + ", due is " + due);
     }
+  }
+
+  /** Refused, and all that can be seen of the nester is as it was. */
+  void refusedQuietly(String what, SheetNester x, Class<? extends RuntimeException> due, Call call) {
+    String before = View.of(x);
+    refused(what, due, call);
+    equal(what + ", what is seen then", View.of(x), before);
   }
 
   void end() {

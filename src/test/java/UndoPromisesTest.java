@@ -19,30 +19,6 @@ final class UndoPromisesTest {
     return x.read();
   }
 
-  /** All that can be asked of the sheets, shapes and parts. */
-  private static String state(SheetNester x) {
-    StringBuilder state = new StringBuilder();
-    for (int sheet = 0; sheet < x.count(0); sheet++) {
-      for (int what = 0; what < 10; what++) {
-        state.append(x.sheet(sheet, what)).append(' ');
-      }
-      for (int cell = 0; cell < x.sheet(sheet, 0) * x.sheet(sheet, 1); cell++) {
-        state.append(x.cell(sheet, cell)).append(' ');
-      }
-    }
-    for (int shape = 0; shape < x.count(1); shape++) {
-      for (int what = 0; what < 8; what++) {
-        state.append(x.shape(shape, what)).append(' ');
-      }
-    }
-    for (int part = 0; part < x.count(2); part++) {
-      for (int what = 0; what < 8; what++) {
-        state.append(x.part(part, what)).append(' ');
-      }
-    }
-    return state.toString();
-  }
-
   private static SheetNester start() {
     SheetNester x = new SheetNester();
     read(x, "s5x4;s3x3-;p##/#.:0*5;p#:1*3");
@@ -63,12 +39,12 @@ final class UndoPromisesTest {
   }
 
   private static void undone(String what, SheetNester x, Check.Call call) {
-    String before = state(x);
+    String before = View.ofWork(x);
     int changes = x.count(5);
     call.answer();
     check.equal("23: " + what + " is a change", x.count(5), changes + 1);
     check.equal("23: undo of " + what, x.undo(), changes);
-    check.equal("23: the state before " + what, state(x), before);
+    check.equal("23: the state before " + what, View.ofWork(x), before);
   }
 
   private static void promise23Each() {
@@ -82,14 +58,14 @@ final class UndoPromisesTest {
     undone("nest", x, () -> x.nest(1));
     undone("nestAll", x, () -> x.nestAll());
     undone("read", x, () -> read(x, "d0:0;s2x2;p#:0*1"));
-    String before = state(x);
+    String before = View.ofWork(x);
     check.refused("23: no change", UnsupportedOperationException.class, () -> x.place(0, 0, 1, 1, 0));
     check.equal("23: a text at fault is none", read(x, "d0:0;q"), -1);
     check.equal("23: nor one with an item at fault", read(x, "d0:0;d0:0"), -1);
     x.saveSnapshot();
     x.feed('s');
     check.equal("23: none of these", x.count(5), 2);
-    check.equal("23: the state is as it was", state(x), before);
+    check.equal("23: the state is as it was", View.ofWork(x), before);
   }
 
   private static void promise23Eight() {
@@ -97,20 +73,20 @@ final class UndoPromisesTest {
     x.addSheet(10, 10, 0);
     String[] states = new String[13];
     for (int i = 0; i < 12; i++) {
-      states[i] = state(x);
+      states[i] = View.ofWork(x);
       x.spoil(0, i);
     }
     check.equal("23: the latest eight", x.count(5), 8);
     for (int i = 11; i >= 7; i--) {
       check.equal("23: back to " + i, x.undo(), i - 4);
-      check.equal("23: the state " + i, state(x), states[i]);
+      check.equal("23: the state " + i, View.ofWork(x), states[i]);
     }
     x.spoil(0, 50);
     check.equal("23: four of them", x.count(5), 4);
     x.undo();
     for (int i = 6; i >= 4; i--) {
       check.equal("23: back to " + i, x.undo(), i - 4);
-      check.equal("23: the state " + i, state(x), states[i]);
+      check.equal("23: the state " + i, View.ofWork(x), states[i]);
     }
     check.refused("23: what was forgotten stays so", STATE, () -> x.undo());
     check.equal("23: four cells are not usable", x.sheet(0, 4), 4);
@@ -120,14 +96,14 @@ final class UndoPromisesTest {
     SheetNester x = start();
     check.equal("24: one part", x.saveSnapshot(), 1);
     check.equal("24: no change", x.count(5), 2);
-    String saved = state(x);
+    String saved = View.ofWork(x);
     check.equal("24: changes can be undone as before", x.undo(), 1);
     check.equal("24: to none", x.saveSnapshot(), 0);
-    String second = state(x);
+    String second = View.ofWork(x);
     x.nestAll();
     check.equal("24: in place of the earlier one", x.restoreSnapshot(), 0);
-    check.equal("24: the second", state(x), second);
-    check.equal("24: not the first", state(x).equals(saved), false);
+    check.equal("24: the second", View.ofWork(x), second);
+    check.equal("24: not the first", View.ofWork(x).equals(saved), false);
   }
 
   private static void promise25() {
@@ -135,20 +111,20 @@ final class UndoPromisesTest {
     check.refused("25: none yet", STATE, () -> x.restoreSnapshot());
     check.equal("25: changes stay then", x.count(5), 2);
     x.saveSnapshot();
-    String saved = state(x);
+    String saved = View.ofWork(x);
     x.keep(0, 0);
     x.nestAll();
     x.take(0);
     check.equal("25: one part", x.restoreSnapshot(), 1);
-    check.equal("25: the state", state(x), saved);
+    check.equal("25: the state", View.ofWork(x), saved);
     check.equal("25: nothing can be undone", x.count(5), 0);
     check.refused("25: nothing", STATE, () -> x.undo());
     x.spoil(0, 0);
     x.nest(0);
     check.equal("25: it is kept", x.restoreSnapshot(), 1);
-    check.equal("25: as it was", state(x), saved);
+    check.equal("25: as it was", View.ofWork(x), saved);
     x.spoil(0, 0);
     check.equal("25: new changes can be undone", x.undo(), 0);
-    check.equal("25: to the snapshot", state(x), saved);
+    check.equal("25: to the snapshot", View.ofWork(x), saved);
   }
 }
