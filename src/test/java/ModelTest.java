@@ -1,3 +1,4 @@
+import java.util.List;
 import java.util.function.Supplier;
 
 /** Long runs of calls, made up by a fixed row of numbers, answered by the class and by the model. */
@@ -8,6 +9,7 @@ final class ModelTest {
     "#", "##", "###", "####", "#/#", "##/##", "#./##", "##/#.", "##./.##", ".#./###", "###/#.#/###", "#.#/###",
     "####/#..#/#..#/####", "#/#/#", "###/#.#/##.", "###/#../#..", "##/.#", "####/#..#/####", ".##/##."
   };
+  private static final String[] HOLLOW = {"###/#.#/###", "####/#..#/#..#/####", "###/#.#/##.", "####/#.../####", "#", "##"};
   private static final String SIGNS = "spdx:*;-|/#.0123456789 q";
 
   private final Check check = new Check("ModelTest");
@@ -57,6 +59,10 @@ final class ModelTest {
     nester = new SheetNester();
     model = new Model();
     pending = "";
+    run = "run " + number;
+    if (number % 3 == 2) {
+      beginHollow();
+    }
     for (int call = 0; call < CALLS; call++) {
       run = "run " + number + ", call " + call;
       int kind = below(100);
@@ -69,6 +75,20 @@ final class ModelTest {
       }
     }
     lookAtAll();
+  }
+
+  /** With holes and bays, and small shapes that go into them, so that these runs have parts within others. */
+  private void beginHollow() {
+    for (String rows : HOLLOW) {
+      addShape(rows, 0, rows.length() < 3 ? 30 : 3);
+    }
+    for (int i = 0; i < 3; i++) {
+      addSheet();
+    }
+    for (int i = 0; i < 24; i++) {
+      place(below(4), below(3), below(8), below(8), below(4));
+      placeClose();
+    }
   }
 
   private void write() {
@@ -180,10 +200,18 @@ final class ModelTest {
     boolean isOdd = below(4) == 0;
     int columns = isOdd ? 1 + mostlyBelow(4) : rows[0].length();
     int rowCount = isOdd ? 1 + mostlyBelow(4) : rows.length;
-    int covered = isOdd ? below(3) > 0 ? below(1 << 16) : mostlyBelow(1 << 16)
-        : Model.coveredOf(java.util.List.of(rows));
+    int covered = isOdd ? below(3) > 0 ? below(1 << 16) : mostlyBelow(1 << 16) : Model.coveredOf(List.of(rows));
     int rule = below(2) == 0 ? 0 : mostlyBelow(3);
     int stock = below(2) == 0 ? below(9) : mostlyBelow(100);
+    addShape(columns, rowCount, covered, rule, stock);
+  }
+
+  private void addShape(String field, int rule, int stock) {
+    String[] rows = field.split("/");
+    addShape(rows[0].length(), rows.length, Model.coveredOf(List.of(rows)), rule, stock);
+  }
+
+  private void addShape(int columns, int rowCount, int covered, int rule, int stock) {
     compare("addShape(" + columns + ", " + rowCount + ", " + covered + ", " + rule + ", " + stock + ")",
         () -> nester.addShape(columns, rowCount, covered, rule, stock),
         () -> model.addShape(columns, rowCount, covered, rule, stock));
@@ -213,11 +241,36 @@ final class ModelTest {
   }
 
   private void place() {
-    int shape = mostlyBelow(model.count(1));
+    if (below(3) == 0) {
+      placeClose();
+      return;
+    }
     int sheet = mostlyBelow(model.count(0));
     int column = below(30) > 0 ? below(11) - 2 : Integer.MAX_VALUE - below(5) + below(2) * below(6);
     int row = below(30) > 0 ? below(11) - 2 : Integer.MAX_VALUE - below(5) + below(2) * below(6);
-    int turn = mostlyBelow(4);
+    place(mostlyBelow(model.count(1)), sheet, column, row, mostlyBelow(4));
+  }
+
+  /** In a bay or a hole of a part, or beside it, and mostly with a shape that is small enough. */
+  private void placeClose() {
+    if (model.count(2) == 0) {
+      return;
+    }
+    int part = below(model.count(2));
+    int shape = below(model.count(1));
+    for (int i = 0; i < 3 && model.shape(shape, 5) > 2; i++) {
+      shape = below(model.count(1));
+    }
+    boolean isWithin = below(2) == 0;
+    int column = model.part(part, 2) + (isWithin ? 1 + below(2) : below(4));
+    int row = model.part(part, 3) + (isWithin ? 1 + below(2) : below(4));
+    place(shape, model.part(part, 1), column, row, below(4));
+    int last = model.count(2) - 1;
+    askPart(last, 6);
+    askWay(model.part(part, 1), below(2), below(3) - 1);
+  }
+
+  private void place(int shape, int sheet, int column, int row, int turn) {
     compare("place(" + shape + ", " + sheet + ", " + column + ", " + row + ", " + turn + ")",
         () -> nester.place(shape, sheet, column, row, turn), () -> model.place(shape, sheet, column, row, turn));
     askCause("reason", below(3));

@@ -8,6 +8,7 @@ final class PartBoundaries {
 
   static void test(Sentences s) {
     placeRefused(s);
+    placeUnchanged(s);
     placeFar(s);
     placeEdges(s);
     placeLimits(s);
@@ -82,6 +83,40 @@ final class PartBoundaries {
       Make.addDot(y, 0);
       due.refusedQuietly("no such turn, no stock", y, Check.ARGUMENT, () -> y.place(0, 0, 0, 0, 4));
     });
+  }
+
+  private static void placeUnchanged(Sentences s) {
+    s.of(9, "A method that throws an exception leaves the state unchanged unless its documentation says otherwise.",
+        due -> {
+      SheetNester x = Make.busy();
+      x.addSheet(4, 4, 1);
+      int along = Make.addShape(x, 1, 1, "##");
+      int none = Make.addDot(x, 0);
+      refusedOtherwise(due, x, " 1 1 5 0 8 0");
+      blocked(due, "no stock", x, " 1 " + none + " 3 0", () -> x.place(none, 2, 0, 0, 0));
+      refusedOtherwise(due, x, " 1 " + none + " 3 0");
+      blocked(due, "the grain", x, " 1 " + along + " 2 3", () -> x.place(along, 2, 0, 0, 3));
+      refusedOtherwise(due, x, " 1 " + along + " 2 3");
+      blocked(due, "beyond the sheet", x, " 1 " + along + " 5 1 6 1", () -> x.place(along, 2, 3, 3, 0));
+      refusedOtherwise(due, x, " 1 " + along + " 5 1 6 1");
+      SheetNester y = new SheetNester();
+      refusedOtherwise(due, y, "");
+      y.addSheet(2, 2, 0);
+      refusedOtherwise(due, y, "");
+    });
+  }
+
+  /** Calls of place that do not come to see whether the shape can be placed, and so keep no reasons. */
+  private static void refusedOtherwise(Check due, SheetNester x, String kept) {
+    for (int far : FAR) {
+      due.refusedQuietly("shape " + far, x, Check.INDEX, () -> x.place(far, 0, 0, 0, 0));
+      due.refusedQuietly("sheet " + far, x, Check.INDEX, () -> x.place(0, far, 0, 0, 0));
+    }
+    if (x.count(1) > 0) {
+      due.refusedQuietly("turn 4", x, Check.ARGUMENT, () -> x.place(0, 0, 0, 0, 4));
+      due.refusedQuietly("turn -1", x, Check.ARGUMENT, () -> x.place(0, 0, -1, 0, -1));
+    }
+    due.equal("the reasons that are kept", View.reasons(x), kept);
   }
 
   private static void placeFar(Sentences s) {

@@ -16,11 +16,13 @@ final class PartPromisesTest {
     promise9Grain();
     promise9Far();
     promise10();
+    promise10Sheets();
     promise11();
     promise11Within();
     promise11Edges();
     promise12();
     promise12Order();
+    promise12Numbers();
     promise13();
     promise13Choice();
     promise14();
@@ -137,6 +139,27 @@ final class PartPromisesTest {
     check.equal("10: then none", x.take(0), 0);
     check.equal("10: all is free again", x.sheet(0, 3) + x.sheet(1, 3), 11);
     check.equal("10: the whole stock", x.shape(0, 4), 99);
+  }
+
+  /** A part's number may be that of the columns, rows or grain of a sheet, which stay as they are. */
+  private static void promise10Sheets() {
+    SheetNester x = new SheetNester();
+    for (int sheet = 0; sheet < 6; sheet++) {
+      x.addSheet(sheet % 2 == 0 ? 10 : 2, 10 - sheet, sheet % 3);
+    }
+    x.addShape(1, 1, 1, 0, 20);
+    for (int part = 0; part < 20; part++) {
+      x.place(0, part % 6, 0, part / 6, 0);
+    }
+    for (int left = 19; left >= 0; left--) {
+      check.equal("10: " + left + " remain", x.take(left % 3 == 0 ? 0 : left), left);
+      for (int sheet = 0; sheet < 6; sheet++) {
+        check.equal("10: columns of sheet " + sheet, x.sheet(sheet, 0), sheet % 2 == 0 ? 10 : 2);
+        check.equal("10: rows of sheet " + sheet, x.sheet(sheet, 1), 10 - sheet);
+        check.equal("10: grain of sheet " + sheet, x.sheet(sheet, 2), sheet % 3);
+      }
+    }
+    check.equal("10: all is free again", x.sheet(0, 3) + x.sheet(1, 3), 118);
   }
 
   private static void promise11() {
@@ -269,6 +292,30 @@ final class PartPromisesTest {
     x.take(19);
     check.refused("12: the place", UNSUPPORTED, () -> x.place(1, 0, 0, 1, 0));
     reasons("12: last the place", x, 1, 1, 5, 0, 8, 10);
+  }
+
+  /** A shape, a sheet and a turn whose numbers differ, so that none can be told for another. */
+  private static void promise12Numbers() {
+    SheetNester x = new SheetNester();
+    x.addSheet(5, 5, 0);
+    x.addSheet(5, 5, 2);
+    for (int shape = 0; shape < 4; shape++) {
+      x.addShape(2, 1, 3, shape == 3 ? 2 : 0, shape == 2 ? 1 : 9);
+    }
+    check.refused("12: the grain", UNSUPPORTED, () -> x.place(3, 1, 0, 0, 1));
+    reasons("12: shape 3 with the turn 1", x, 1, 3, 2, 1);
+    check.equal("12: allowed on the other sheet", x.place(3, 0, 0, 0, 1), 0);
+    check.equal("12: and with another turn", x.place(3, 1, 0, 0, 2), 1);
+    check.equal("12: the stock of shape 2", x.place(2, 1, 0, 1, 1), 2);
+    check.refused("12: no stock", UNSUPPORTED, () -> x.place(2, 0, 3, 3, 0));
+    reasons("12: one part of shape 2", x, 1, 2, 3, 1);
+    check.refused("12: beyond the sheet", UNSUPPORTED, () -> x.place(1, 1, 4, 1, 2));
+    reasons("12: right of the sheet", x, 1, 1, 5, 1, 6, 1);
+    check.refused("12: covered", UNSUPPORTED, () -> x.place(1, 1, 0, 1, 3));
+    reasons("12: shape 1 on part 2", x, 1, 1, 5, 0, 8, 2);
+    x.spoil(1, 24);
+    check.refused("12: not usable", UNSUPPORTED, () -> x.place(0, 1, 3, 4, 0));
+    reasons("12: shape 0 on cell 24", x, 1, 0, 5, 1, 7, 24);
   }
 
   private static void promise13() {

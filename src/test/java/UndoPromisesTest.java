@@ -7,6 +7,8 @@ final class UndoPromisesTest {
     promise23();
     promise23Each();
     promise23Eight();
+    promise23Gone();
+    promise23Smaller();
     promise24();
     promise25();
     check.end();
@@ -90,6 +92,63 @@ final class UndoPromisesTest {
     }
     check.refused("23: what was forgotten stays so", STATE, () -> x.undo());
     check.equal("23: four cells are not usable", x.sheet(0, 4), 4);
+  }
+
+  /** What is undone is not there any more, whatever call asks for it. */
+  private static void promise23Gone() {
+    SheetNester x = new SheetNester();
+    x.addSheet(10, 10, 0);
+    Make.addDot(x, 9);
+    x.place(0, 0, 9, 9, 0);
+    x.undo();
+    check.refused("23: no part to take", Check.INDEX, () -> x.take(0));
+    check.refused("23: no part", Check.INDEX, () -> x.part(0, 0));
+    x.undo();
+    check.refused("23: no shape", Check.INDEX, () -> x.shape(0, 0));
+    check.refused("23: none to turn", Check.INDEX, () -> x.turned(0, 0));
+    check.refused("23: none to place", Check.INDEX, () -> x.place(0, 0, 0, 0, 0));
+    check.refused("23: none to nest", Check.INDEX, () -> x.nest(0));
+    x.undo();
+    Make.addDot(x, 9);
+    check.refused("23: no sheet", Check.INDEX, () -> x.sheet(0, 0));
+    check.refused("23: no cell", Check.INDEX, () -> x.cell(0, 0));
+    check.refused("23: none to spoil", Check.INDEX, () -> x.spoil(0, 0));
+    check.refused("23: none to place on", Check.INDEX, () -> x.place(0, 0, 0, 0, 0));
+    check.refused("23: none to nest on", Check.ELEMENT, () -> x.nest(0));
+    check.refused("23: no remnant", Check.INDEX, () -> x.remnant(0, 0, 0));
+    check.refused("23: none to keep", Check.INDEX, () -> x.keep(0, 0));
+    check.refused("23: no way", Check.INDEX, () -> x.way(0, 0, -1));
+    check.refused("23: no usable cells", Check.ARITHMETIC, () -> x.usedShare());
+    check.equal("23: no cells", x.count(3), 0);
+    check.equal("23: nor for a text", read(x, "d0:0"), -1);
+    check.equal("23: its faults", View.faults(x), " 1 0 3 1 7 0");
+  }
+
+  /** A sheet, shape or part in the place of a greater one that was undone has nothing of it. */
+  private static void promise23Smaller() {
+    SheetNester x = new SheetNester();
+    x.addSheet(10, 10, 2);
+    x.addShape(4, 4, 0xffff, 2, 99);
+    x.place(0, 0, 6, 6, 2);
+    for (int i = 0; i < 3; i++) {
+      x.undo();
+    }
+    SheetNester fresh = new SheetNester();
+    for (SheetNester y : new SheetNester[] {x, fresh}) {
+      y.addSheet(3, 2, 0);
+      Make.addDot(y, 3);
+      y.place(0, 0, 0, 1, 0);
+    }
+    check.equal("23: as on a new object", View.of(x), View.of(fresh));
+    for (int cell = 6; cell < 100; cell++) {
+      int beyond = cell;
+      check.refused("23: no cell " + cell, Check.INDEX, () -> x.cell(0, beyond));
+      check.refused("23: nor to spoil " + cell, Check.INDEX, () -> x.spoil(0, beyond));
+      check.equal("23: nor for a text " + cell, read(x, "d0:" + cell), -1);
+      check.equal("23: its faults " + cell, View.faults(x), " 1 0 3 2 7 1");
+    }
+    check.equal("23: five free cells", x.remnant(0, 0, 0), 5);
+    check.equal("23: no second remnant", x.sheet(0, 9), 1);
   }
 
   private static void promise24() {
